@@ -848,16 +848,10 @@ public final class TeamRooms {
             if (booking == NONE) {
                 return NONE;
             }
-            int least = MOST_SLACK;
-            // Bookings of a room don't collide: only a room that is free too late pushes them on, all without a gap.
-            int pushed = rooms.cell(room, ROOM_FREE);
-            for (int turn = 0; turn < MOST_BOOKINGS && booking != NONE; turn++) {
-                int time = bookings.cell(booking, BOOKING_TIME);
-                least = Math.min(least, time + venue.setting(PATIENCE) - pushed);
-                pushed += venue.period(room);
-                booking = venue.nextBooked(room, time);
-            }
-            return least >= 0 ? least : NONE;
+            // Bookings of a room don't collide, so none of them ever gets more delay than the first one.
+            int latest = bookings.cell(booking, BOOKING_TIME) + venue.setting(PATIENCE);
+            int minutes = latest - rooms.cell(room, ROOM_FREE);
+            return minutes >= 0 ? Math.min(minutes, MOST_SLACK) : NONE;
         }
 
         int hintsLeft(int booking, int goal) {
