@@ -23,6 +23,10 @@ final class Checks {
         return wrong;
     }
 
+    int asked() {
+        return asked;
+    }
+
     /** Ends the test; with exit code 1 if an answer was not as due. */
     void finish(String test) {
         System.out.println(test + ": " + asked + " answers, " + wrong + " not as due");
