@@ -86,6 +86,26 @@ final class PaymentSentences extends Sentences {
         payments(y, 3, 54, 26, 4);
         due(y.cancel(3), 40);
         payments(y, 3, 14, 26, 4);
+        noPaymentsInRow(-1);
+        noPaymentsInRow(0);
+    }
+
+    /** A booking without voucher payments gets those of another one: nothing stands ahead of them in the row. */
+    private static void noPaymentsInRow(int voucher) {
+        TeamRooms x = paidFrom(20);
+        x.sellVoucher(5);
+        due(x.book(0, 40, 2, voucher), 1);
+        payments(x, 1, 20, 0, 0);
+        due(x.book(0, 80, 2, 1), 2);
+        x.merge(2, 1);
+        payments(x, 1, 35, 5, 1);
+        x.set(3, 0);
+        x.play(0, 30, 0, 9);
+        due(x.forecast(1, 1), 45);
+        // All that is paid is refunded.
+        due(x.cancel(1), 40);
+        payments(x, 1, 0, 0, 0);
+        due(x.voucher(1, 1), 5);
     }
 
     @Says("Payments and vouchers | There are at most 8 vouchers, numbered from 0 in the order in which they were sold.")

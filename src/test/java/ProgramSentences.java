@@ -403,6 +403,15 @@ final class ProgramSentences extends Sentences {
         x.clearText();
         write(x, "gift");
         due(x.run(), -1004);
+        // A token ends where the text ends, whatever stood behind before.
+        write(x, "drop 123");
+        x.clearText();
+        write(x, "drop 1");
+        due(x.run(), -1006);
+        write(x, "gifts");
+        x.clearText();
+        write(x, "gift");
+        due(x.run(), -1004);
         isNoAction(Sentences::mixed, y -> y.clearText());
         isNoAction(ProgramSentences::venue, y -> y.clearText());
     }
